@@ -26,7 +26,10 @@ public final class FaceTest {
         Set<String> seen = new TreeSet<>();
         Set<String> publicNames = new TreeSet<>();
         Set<String> privateNames = new TreeSet<>();
-        boolean right = Modifier.isFinal(HeightLines.class.getModifiers());
+        boolean right = Modifier.toString(HeightLines.class.getModifiers()).equals("public final");
+        if (!right) {
+            System.out.println("the class is not public and final");
+        }
         for (Field field : HeightLines.class.getDeclaredFields()) {
             if (!Modifier.isPrivate(field.getModifiers())) {
                 seen.add(field.toString());
